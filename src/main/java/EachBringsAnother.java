@@ -1563,7 +1563,7 @@ public final class EachBringsAnother {
             tooMany = false;
             place(folk.who, 1);
             for (int rank = 0; rank < RANKS; rank++) {
-                for (int k = 0; k < MOST_STATES && firstOfRank[rank] != NONE && !tooMany; k++) {
+                while (done < MOST_STATES && firstOfRank[rank] != NONE && !tooMany) {
                     int s = firstOfRank[rank];
                     firstOfRank[rank] = behind[s];
                     order[done] = s;

@@ -182,6 +182,7 @@ public final class PromiseTests {
         is("land", land(x, "1!;2a?;3ab!?;0"), 4);
         is("TEXT", x.count(8), 0);
         is("PEOPLE", x.count(0), 4);
+        is("never", x.never(), 10);
         is("GUESTS", x.count(2), 5);
         is("STRANGERS", x.count(3), 10);
         is("HIDDEN", x.count(9), 6);
@@ -190,6 +191,7 @@ public final class PromiseTests {
         is("of(3, 1)", x.of(3, 1), 0);
         is("was(0)", x.was(0), 5);
         is("a land behind", land(x, "9acd;7be!"), 2);
+        is("never", x.never(), 0b000010);
         is("of(0, 1)", x.of(0, 1), 0b10110);
         is("of(4, 1)", x.of(4, 1), 0b101101);
         is("of(5, 1)", x.of(5, 1), 0b10010);
@@ -246,6 +248,10 @@ public final class PromiseTests {
         picksBy("i=2", 2);
         picksBy("i<2", 1);
         picksBy("i>2", 3);
+        picksBy("-(i<2)", 2);
+        picksBy("-(i>1)", 1);
+        picksBy("-(i>1)-(i<2)*2+1", 2);
+        picksBy("-(p=2)", 2);
         picksBy("-1", -2);
         picksBy("0-i", -2);
         picksBy("--i", 3);
@@ -307,12 +313,21 @@ public final class PromiseTests {
         is("WEEKS", y.picks(0), 2);
         rule(y, "w-2");
         is("WEEKS", y.picks(0), -2);
+        rule(y, "0-l");
+        is("0 is a NUMBER", y.picks(0), -2);
+        rule(y, "l*0");
+        is("0 is a NUMBER", y.picks(0), 2);
+        rule(y, "0-1+0");
+        is("0 is a NUMBER", y.picks(0), -2);
         rule(y, "(w)=(1)");
         is("a wrong RULE", rule(y, "w-2-"), -5);
         is("changes nothing", y.picks(0), 2);
-        rule(y, "0-1");
+        rule(y, "i");
+        is("the last one", y.picks(0), 3);
         rule(y, "");
         is("an empty one is none", y.picks(0), 2);
+        EachBringsAnother z = of("1;2a!;3b");
+        is("the first one", z.picks(1), 0);
     }
 
     /** Whom a would bring by a RULE: b, c, d have PRICES 2 .. 4, all know it, and d knows b and c. */
@@ -325,8 +340,9 @@ public final class PromiseTests {
 
     private static void rulesThatAreWrong() {
         String[] texts = {"x", "i+", "i<p<k", "i=p>1", "(i", "(((((i", "1000", "i)", "()", "i i", "+i", "1i", "i1", "2*/3", "-", "(i<p)<k<l",
-            "(i<p<k)", "i~i", "I", "12(3)", "((i)", "1=2+(3=4=5)", "1<", "01234"};
-        int[] at = {0, 2, 3, 3, 2, 4, 3, 1, 1, 1, 0, 1, 1, 2, 1, 7, 4, 1, 0, 2, 4, 8, 2, 3};
+            "(i<p<k)", "i~i", "I", "12(3)", "((i)", "1=2+(3=4=5)", "1<", "01234", "(1)2", "(i)i",
+            "-(1)-(2)3"};
+        int[] at = {0, 2, 3, 3, 2, 4, 3, 1, 1, 1, 0, 1, 1, 2, 1, 7, 4, 1, 0, 2, 4, 8, 2, 3, 3, 3, 8};
         for (int k = 0; k < texts.length; k++) {
             EachBringsAnother x = of(FIVE);
             rule(x, "0-1");
@@ -555,6 +571,12 @@ public final class PromiseTests {
             is("week " + cannot[k], week(x, cannot[k]), why[k]);
             is("nothing changes", x.count(2) * 100 + x.count(1) * 10 + x.count(5), 3500);
         }
+        is("a STRANGER brings one it knows", week(of(FIVE), "d>b"), -100);
+        is("a STRANGER brings the first", week(of("1;2a;3!"), "b>a"), -100);
+        EachBringsAnother out = of("1!;2a!;3a;4b", 1, 10);
+        week(out, "b>d");
+        is("one who is OUT brings one it knows", week(out, "a>c"), -100);
+        is("one who is OUT is brought", week(out, "b>a"), -100);
         x.law(1, 3);
         is("four GUESTS", week(x, "a>c;b>e"), -200);
         is("a wrong PAIR ahead of SEATS", week(x, "a>c;b>c"), -101);
@@ -621,6 +643,13 @@ public final class PromiseTests {
         is("KNOWS stays", x.of(0, 1), 4);
         is("GRACE stays", x.law(0, 2), 3);
         is("none", x.undo(), -1);
+        EachBringsAnother y = of("1;2a!;3b");
+        is("soonest", y.soonest(0), 1);
+        week(y, "b>a");
+        is("soonest", y.soonest(0), 0);
+        is("undo", y.undo(), 0);
+        is("BROUGHT", y.of(0, 5), -1);
+        is("soonest", y.soonest(0), 1);
         week(x, "");
         x.baby(1);
         is("a baby", x.undo(), -1);
@@ -853,6 +882,11 @@ public final class PromiseTests {
         promise = 19;
         x.law(1, 1);
         is("with one SEAT there are few", x.states(), 4);
+        EachBringsAnother y = of("1!;1a;1b;1b;1a;1abcd;1bcde", 3, 4);
+        is("no more than 3000", y.states(), 3000);
+        EachBringsAnother z = of("1!;1a;1a;1ab;1abc;1abcd;1cde;1adefg", 2, 3);
+        is("3001", z.states(), -3);
+        rowIs(z);
     }
 
     private static void mostAndFewest() {
@@ -1027,6 +1061,18 @@ public final class PromiseTests {
         z.meet(0, 3, true);
         is("a brings c, then d", z.stays(0), 2);
         rowIs(z, 2);
+        EachBringsAnother seats = of("1;2a!;3!", 2, 2);
+        is("no SEAT while c is one", seats.stays(1), 3);
+        rowIs(seats, -1);
+        week(seats, "");
+        is("now there is", seats.stays(1), 2);
+        rowIs(seats, 0);
+        EachBringsAnother three = of("1;2a!;3!;4c", 1, 3);
+        is("with others that bring nobody", three.stays(1), 1);
+        rowIs(three, 0);
+        three.law(1, 1);
+        is("no SEAT", three.stays(1), 0);
+        rowIs(three, -1);
         promise = 29;
         is("it is", x.soonest(0), 0);
         is("soonest(1)", x.soonest(1), 1);
@@ -1071,6 +1117,8 @@ public final class PromiseTests {
     }
 
     private static void bounds() {
+        promise = 31;
+        is("the first one", of("1;2a!").needed(), 1);
         promise = 33;
         EachBringsAnother x = of(FIVE);
         is("bound", x.bound(), 4);
@@ -1135,7 +1183,14 @@ public final class PromiseTests {
         is("none such", x.line(7), -1);
         is("none such", x.line(-1), -1);
         rowIs(x, 0, 2, 3);
+        EachBringsAnother first = of("1;2a!;3a");
+        week(first, "b>a");
+        week(first, "a>c");
+        is("line(2)", first.line(2), 2);
+        rowIs(first, 1, 0);
         promise = 36;
+        is("led(1)", first.led(1), 5);
+        rowIs(first, 1, 2);
         is("led(0)", x.led(0), 0b11110);
         rowIs(x, 2, 3);
         is("led(2)", x.led(2), 0b11000);
@@ -1230,6 +1285,30 @@ public final class PromiseTests {
         week(x, "");
         is("refused", x.again(0), false);
         is("a refused one lets it be undone", x.undo(), 1);
+        EachBringsAnother sixty = of("1!", 3, 10);
+        for (int k = 0; k < 58; k++) {
+            week(sixty, "");
+        }
+        land(sixty, "1!");
+        sixty.keep(0);
+        is("goes", sixty.goes(60), 2);
+        sixty.keep(1);
+        is("again", sixty.again(0), true);
+        sixty.law(0, 1);
+        week(sixty, "");
+        week(sixty, "");
+        is("was(60)", sixty.was(60) + sixty.was(59), 0);
+        is("again", sixty.again(1), true);
+        is("was(59)", sixty.was(59), 2);
+        is("was(60)", sixty.was(60), 2);
+        is("was(2)", sixty.was(2), 1);
+        is("LATE", sixty.of(1, 4), 2);
+        EachBringsAnother other = of("1!;2a");
+        other.keep(0);
+        week(other, "a>b");
+        is("soonest(1)", other.soonest(1), 0);
+        is("again", other.again(0), true);
+        is("soonest(1)", other.soonest(1), 1);
         EachBringsAnother nobody = new EachBringsAnother();
         is("keep nobody", nobody.keep(1), true);
         week(nobody, "");

@@ -17,7 +17,7 @@ public final class RandomRuns {
     }
 
     public static void main(String[] args) {
-        int runs = args.length > 0 ? Integer.parseInt(args[0]) : 150;
+        int runs = args.length > 0 ? Integer.parseInt(args[0]) : 400;
         int from = args.length > 1 ? Integer.parseInt(args[1]) : 0;
         int failed = 0;
         for (int seed = from; seed < from + runs; seed++) {
@@ -192,7 +192,12 @@ public final class RandomRuns {
         return s.length() > 80 ? s.substring(0, 80) : s.toString();
     }
 
+    /** PAIRS of which most can be. */
     private String weekText() {
+        if (random.nextInt(10) == 0) {
+            char one = (char) ('a' + random.nextInt(people));
+            return one + ">" + (char) ('a' + random.nextInt(people));
+        }
         int guests = y.count(2);
         int strangers = y.count(3);
         StringBuilder s = new StringBuilder();

@@ -322,6 +322,14 @@ public final class PromiseTests {
         rule(y, "(w)=(1)");
         is("a wrong RULE", rule(y, "w-2-"), -5);
         is("changes nothing", y.picks(0), 2);
+        is("one that ends too early", rule(y, "i+"), -3);
+        rule(y, "0-i");
+        is("nothing of it is left over", y.picks(0), -2);
+        is("one that ends too early in ( )", rule(y, "(i*(n"), -6);
+        rule(y, "2-i");
+        is("nor of its depth", y.picks(0), 2);
+        is("two comparisons", rule(y, "i<p<k"), -4);
+        is("nothing of them is left over", rule(y, "0-1<i"), 0);
         rule(y, "i");
         is("the last one", y.picks(0), 3);
         rule(y, "");
@@ -908,6 +916,12 @@ public final class PromiseTests {
         EachBringsAnother one = of("1!");
         is("most(60)", one.most(60), 0);
         rowIs(one, 1);
+        EachBringsAnother none = new EachBringsAnother();
+        is("nobody stays nobody", none.most(60), 0);
+        rowIs(none, 1);
+        EachBringsAnother strangers = of("1;2a");
+        is("nobody ever is a GUEST", strangers.most(1), 0);
+        rowIs(strangers, 1);
         promise = 21;
         is("reach(0)", x.reach(0), 1);
         rowIs(x, 1);

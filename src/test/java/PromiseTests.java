@@ -892,6 +892,9 @@ public final class PromiseTests {
         is("with one SEAT there are few", x.states(), 4);
         EachBringsAnother y = of("1!;1a;1b;1b;1a;1abcd;1bcde", 3, 4);
         is("no more than 3000", y.states(), 3000);
+        int without = y.row(0);
+        is("all are over then", y.most(60), 0);
+        rowIs(y, without);
         EachBringsAnother z = of("1!;1a;1a;1ab;1abc;1abcd;1cde;1adefg", 2, 3);
         is("3001", z.states(), -3);
         rowIs(z);

@@ -1,13 +1,8 @@
-import java.util.NoSuchElementException;
-
 /** For each promise of the document: ordinary answers, the edges that it names, wrong inputs. */
 public final class PromiseTests {
     private static final int[] CHECKS = new int[44];
     private static int wrong;
     private static int promise;
-
-    /** A GUEST a (price 1) and STRANGERS b .. e of prices 2 .. 5: a knows b and c, d knows b and c, e knows d. */
-    private static final String FIVE = "1!;2a;3a;4bc;5d";
 
     private static void is(String call, long got, long due) {
         CHECKS[promise]++;
@@ -30,45 +25,12 @@ public final class PromiseTests {
     }
 
     private static void throwsNone(String call, Runnable run) {
-        int thrown = 0;
-        try {
-            run.run();
-        } catch (NoSuchElementException e) {
-            thrown = 1;
-        }
-        is(call + " throws", thrown, 1);
-    }
-
-    private static void tell(EachBringsAnother x, String text) {
-        StringBuilder padded = new StringBuilder(text);
-        while (padded.length() % 4 != 0) {
-            padded.append('?');
-        }
-        x.end(0);
-        for (int k = 0; k < padded.length(); k += 4) {
-            x.sign(padded.charAt(k) << 24 | padded.charAt(k + 1) << 16 | padded.charAt(k + 2) << 8 | padded.charAt(k + 3));
-        }
-        x.end(text.length());
-    }
-
-    private static int land(EachBringsAnother x, String text) {
-        tell(x, text);
-        return x.land();
-    }
-
-    private static int rule(EachBringsAnother x, String text) {
-        tell(x, text);
-        return x.rule();
-    }
-
-    private static int week(EachBringsAnother x, String text) {
-        tell(x, text);
-        return x.week();
+        is(call + " throws", Feasts.throwsNone(run), true);
     }
 
     private static EachBringsAnother of(String land) {
         EachBringsAnother x = new EachBringsAnother();
-        is("land " + land, land(x, land), land.split(";").length);
+        is("land " + land, Feasts.land(x, land), land.split(";").length);
         return x;
     }
 
@@ -83,7 +45,7 @@ public final class PromiseTests {
     private static EachBringsAnother crowded(int people, int guests) {
         EachBringsAnother x = new EachBringsAnother();
         for (int p = 0; p < people; p++) {
-            land(x, p < guests ? "1!" : "1");
+            Feasts.land(x, p < guests ? "1!" : "1");
             for (int q = 0; q < p; q++) {
                 x.meet(p, q, true);
             }
@@ -179,7 +141,7 @@ public final class PromiseTests {
         promise = 4;
         EachBringsAnother x = new EachBringsAnother();
         is("an empty one", x.land(), 0);
-        is("land", land(x, "1!;2a?;3ab!?;0"), 4);
+        is("land", Feasts.land(x, "1!;2a?;3ab!?;0"), 4);
         is("TEXT", x.count(8), 0);
         is("PEOPLE", x.count(0), 4);
         is("never", x.never(), 10);
@@ -190,23 +152,23 @@ public final class PromiseTests {
         is("of(2, 1)", x.of(2, 1), 3);
         is("of(3, 1)", x.of(3, 1), 0);
         is("was(0)", x.was(0), 5);
-        is("a land behind", land(x, "9acd;7be!"), 2);
+        is("a land behind", Feasts.land(x, "9acd;7be!"), 2);
         is("never", x.never(), 0b000010);
         is("of(0, 1)", x.of(0, 1), 0b10110);
         is("of(4, 1)", x.of(4, 1), 0b101101);
         is("of(5, 1)", x.of(5, 1), 0b10010);
         is("was(0)", x.was(0), 0b100101);
-        week(x, "");
-        is("behind a WEEK", land(x, "5!"), 1);
+        Feasts.week(x, "");
+        is("behind a WEEK", Feasts.land(x, "5!"), 1);
         is("was(0)", x.was(0), 0b100101);
         is("was(1)", x.was(1), 0b1000000);
         is("of(6, 6)", x.of(6, 6), 1);
         is("of(6, 4)", x.of(6, 4), 0);
         is("no WEEK can be undone", x.undo(), -1);
-        week(x, "");
+        Feasts.week(x, "");
         is("an empty land()", x.land(), 0);
         is("lets the WEEK be undone", x.count(6), 1);
-        is("a wrong one", land(x, "x"), -1);
+        is("a wrong one", Feasts.land(x, "x"), -1);
         is("too", x.undo(), 1);
     }
 
@@ -216,27 +178,27 @@ public final class PromiseTests {
         int[] at = {0, 0, 0, 1, 3, 4, 6, 2, 2, 2, 2, 2, 1, 6, 6, 3, 7, 4, 0};
         for (int k = 0; k < texts.length; k++) {
             EachBringsAnother x = new EachBringsAnother();
-            is("land " + texts[k], land(x, texts[k]), -1 - at[k]);
+            is("land " + texts[k], Feasts.land(x, texts[k]), -1 - at[k]);
             is("nothing of it comes", x.count(0), 0);
             is("THE TEXT is empty", x.count(8), 0);
         }
         EachBringsAnother x = of("1;1;1;1;1;1;1;1;1");
-        is("two where one has room", land(x, "1;1"), -3);
-        is("one and no end", land(x, "1;"), -3);
-        is("one, and another one's first sign is wrong", land(x, "1;!"), -3);
+        is("two where one has room", Feasts.land(x, "1;1"), -3);
+        is("one and no end", Feasts.land(x, "1;"), -3);
+        is("one, and another one's first sign is wrong", Feasts.land(x, "1;!"), -3);
         is("none came", x.count(0), 9);
-        is("one", land(x, "1abcdefghi"), 1);
+        is("one", Feasts.land(x, "1abcdefghi"), 1);
         is("its own letter", x.of(9, 1), 0b111111111);
-        is("no room", land(x, "1"), -1);
-        is("no room for a wrong one", land(x, "x"), -1);
-        is("an empty one", land(x, ""), 0);
+        is("no room", Feasts.land(x, "1"), -1);
+        is("no room for a wrong one", Feasts.land(x, "x"), -1);
+        is("an empty one", Feasts.land(x, ""), 0);
         String long77 = "1!?;1a!?;1ab!?;1abc!?;1abcd!?;1abcde!?;1abcdef!?;1abcdefg!?;1abcdefgh!?;1abcdefghi!?".substring(0, 77);
-        is("77 signs", land(new EachBringsAnother(), long77), -77);
-        is("76 signs", land(new EachBringsAnother(), long77.substring(0, 76)), 10);
-        is("80 signs that end at 76 with ;", land(new EachBringsAnother(),
+        is("77 signs", Feasts.land(new EachBringsAnother(), long77), -77);
+        is("76 signs", Feasts.land(new EachBringsAnother(), long77.substring(0, 76)), 10);
+        is("80 signs that end at 76 with ;", Feasts.land(new EachBringsAnother(),
             "1!?;1a!?;1ab!?;1abc!?;1abcd!?;1abcde!?;1abcdef!?;1abcdefg!?;1abcdefgh!?;1ab;" + "1abc"), -77);
-        is("wrong ahead of 76", land(new EachBringsAnother(), "1!?;1b" + "1".repeat(74)), -6);
-        is("76 signs with ; as the last", land(new EachBringsAnother(),
+        is("wrong ahead of 76", Feasts.land(new EachBringsAnother(), "1!?;1b" + "1".repeat(74)), -6);
+        is("76 signs with ; as the last", Feasts.land(new EachBringsAnother(),
             "1!?;1a!?;1ab!?;1abc!?;1abcd!?;1abcde!?;1abcdef!?;1abcdefg!?;1abcdefgh!?;1ab;"), -77);
     }
 
@@ -294,45 +256,45 @@ public final class PromiseTests {
         picksBy("256*256*256*128-1", 1);
         picksBy("256*256*256*128/-1", -2);
         EachBringsAnother y = of("0!;0!;5a;1ab;2b?;3bc", 3, 10);
-        rule(y, "k");
+        Feasts.rule(y, "k");
         is("KNOWS", y.picks(0), 2);
-        rule(y, "-k");
+        Feasts.rule(y, "-k");
         is("KNOWS", y.picks(0), -2);
-        rule(y, "g");
+        Feasts.rule(y, "g");
         is("GUESTS", y.picks(0), 3);
-        rule(y, "s");
+        Feasts.rule(y, "s");
         is("STRANGERS", y.picks(1), 5);
-        rule(y, "n*p-1");
+        Feasts.rule(y, "n*p-1");
         is("who would bring it", y.picks(0), -2);
         is("who would bring it", y.picks(1), 5);
-        rule(y, "l-1");
+        Feasts.rule(y, "l-1");
         is("LATE", y.picks(0), -2);
-        week(y, "");
+        Feasts.week(y, "");
         is("LATE", y.picks(0), 2);
-        rule(y, "w-1");
+        Feasts.rule(y, "w-1");
         is("WEEKS", y.picks(0), 2);
-        rule(y, "w-2");
+        Feasts.rule(y, "w-2");
         is("WEEKS", y.picks(0), -2);
-        rule(y, "0-l");
+        Feasts.rule(y, "0-l");
         is("0 is a NUMBER", y.picks(0), -2);
-        rule(y, "l*0");
+        Feasts.rule(y, "l*0");
         is("0 is a NUMBER", y.picks(0), 2);
-        rule(y, "0-1+0");
+        Feasts.rule(y, "0-1+0");
         is("0 is a NUMBER", y.picks(0), -2);
-        rule(y, "(w)=(1)");
-        is("a wrong RULE", rule(y, "w-2-"), -5);
+        Feasts.rule(y, "(w)=(1)");
+        is("a wrong RULE", Feasts.rule(y, "w-2-"), -5);
         is("changes nothing", y.picks(0), 2);
-        is("one that ends too early", rule(y, "i+"), -3);
-        rule(y, "0-i");
+        is("one that ends too early", Feasts.rule(y, "i+"), -3);
+        Feasts.rule(y, "0-i");
         is("nothing of it is left over", y.picks(0), -2);
-        is("one that ends too early in ( )", rule(y, "(i*(n"), -6);
-        rule(y, "2-i");
+        is("one that ends too early in ( )", Feasts.rule(y, "(i*(n"), -6);
+        Feasts.rule(y, "2-i");
         is("nor of its depth", y.picks(0), 2);
-        is("two comparisons", rule(y, "i<p<k"), -4);
-        is("nothing of them is left over", rule(y, "0-1<i"), 0);
-        rule(y, "i");
+        is("two comparisons", Feasts.rule(y, "i<p<k"), -4);
+        is("nothing of them is left over", Feasts.rule(y, "0-1<i"), 0);
+        Feasts.rule(y, "i");
         is("the last one", y.picks(0), 3);
-        rule(y, "");
+        Feasts.rule(y, "");
         is("an empty one is none", y.picks(0), 2);
         EachBringsAnother z = of("1;2a!;3b");
         is("the first one", z.picks(1), 0);
@@ -341,7 +303,7 @@ public final class PromiseTests {
     /** Whom a would bring by a RULE: b, c, d have PRICES 2 .. 4, all know it, and d knows b and c. */
     private static void picksBy(String text, int due) {
         EachBringsAnother x = of("1!;2a;3a;4abc;9");
-        is("rule " + text, rule(x, text), 0);
+        is("rule " + text, Feasts.rule(x, text), 0);
         is("THE TEXT", x.count(8), 0);
         is("picks(0) by " + text, x.picks(0), due);
     }
@@ -352,26 +314,26 @@ public final class PromiseTests {
             "-(1)-(2)3"};
         int[] at = {0, 2, 3, 3, 2, 4, 3, 1, 1, 1, 0, 1, 1, 2, 1, 7, 4, 1, 0, 2, 4, 8, 2, 3, 3, 3, 8};
         for (int k = 0; k < texts.length; k++) {
-            EachBringsAnother x = of(FIVE);
-            rule(x, "0-1");
-            is("rule " + texts[k], rule(x, texts[k]), -1 - at[k]);
+            EachBringsAnother x = of(Feasts.FIVE);
+            Feasts.rule(x, "0-1");
+            is("rule " + texts[k], Feasts.rule(x, texts[k]), -1 - at[k]);
             is("THE TEXT is empty", x.count(8), 0);
             is("THE RULE stays", x.picks(0), -2);
         }
-        EachBringsAnother x = of(FIVE);
+        EachBringsAnother x = of(Feasts.FIVE);
         String forty = "1+1+1+1+1+1+1+1+1+1+1+1+1+1+1+1+1+1+1-20";
-        is("40 signs", rule(x, forty), 0);
+        is("40 signs", Feasts.rule(x, forty), 0);
         is("19 - 20", x.picks(0), -2);
-        is("41 signs", rule(x, forty + "1"), -41);
-        is("41 signs, the last one wrong", rule(x, forty + "x"), -41);
-        is("40 signs that go on", rule(x, forty.substring(0, 39) + "+"), -41);
-        is("41 signs, the first wrong", rule(x, "x" + forty), -1);
-        is("40 signs of -", rule(x, "-".repeat(40)), -41);
-        is("39 signs of -", rule(x, "-".repeat(39) + "i"), 0);
+        is("41 signs", Feasts.rule(x, forty + "1"), -41);
+        is("41 signs, the last one wrong", Feasts.rule(x, forty + "x"), -41);
+        is("40 signs that go on", Feasts.rule(x, forty.substring(0, 39) + "+"), -41);
+        is("41 signs, the first wrong", Feasts.rule(x, "x" + forty), -1);
+        is("40 signs of -", Feasts.rule(x, "-".repeat(40)), -41);
+        is("39 signs of -", Feasts.rule(x, "-".repeat(39) + "i"), 0);
         is("an odd number of -", x.picks(0), -2);
-        is("deep ones side by side", rule(x, "((((i))))-((((p))))"), 0);
+        is("deep ones side by side", Feasts.rule(x, "((((i))))-((((p))))"), 0);
         is("i - p", x.picks(0), -2);
-        is("a comparison in each", rule(x, "((i<p)<(i>p))=((i=p)=0)"), 0);
+        is("a comparison in each", Feasts.rule(x, "((i<p)<(i>p))=((i=p)=0)"), 0);
     }
 
     private static void ofOne() {
@@ -384,12 +346,12 @@ public final class PromiseTests {
             }
         }
         x.hide(1, false);
-        is("week", week(x, "c>b"), 2);
+        is("week", Feasts.week(x, "c>b"), 2);
         is("of(1, 3)", x.of(1, 3), 1);
         is("of(1, 5)", x.of(1, 5), 2);
         is("of(1, 6)", x.of(1, 6), 1);
         is("of(0, 4)", x.of(0, 4), 1);
-        week(x, "");
+        Feasts.week(x, "");
         is("of(0, 3)", x.of(0, 3), 2);
         is("of(0, 4)", x.of(0, 4), -1);
         is("of(0, 6)", x.of(0, 6), 0);
@@ -422,12 +384,12 @@ public final class PromiseTests {
         }
         is("law(1, 10)", x.law(1, 10), 1);
         is("law(0, 3)", x.law(0, 3), 2);
-        week(x, "");
-        week(x, "");
+        Feasts.week(x, "");
+        Feasts.week(x, "");
         is("LATE 2 of GRACE 3", x.of(0, 4), 2);
         is("law(0, 1)", x.law(0, 1), 3);
         is("LATE stays", x.of(0, 4), 2);
-        week(x, "");
+        Feasts.week(x, "");
         is("OUT", x.of(0, 3), 2);
     }
 
@@ -462,7 +424,7 @@ public final class PromiseTests {
         is("hide(0, true)", x.hide(0, true), true);
         is("a GUEST too", x.count(9), 3);
         is("and is a GUEST", x.count(2), 1);
-        is("it brings", week(x, "a>c"), 3);
+        is("it brings", Feasts.week(x, "a>c"), 3);
         is("hide(0, false)", x.hide(0, false), true);
         is("hide(0, false)", x.hide(0, false), true);
         is("count(9)", x.count(9), 2);
@@ -475,7 +437,7 @@ public final class PromiseTests {
     private static void babies() {
         promise = 10;
         EachBringsAnother x = of("1!;2a");
-        week(x, "a>b");
+        Feasts.week(x, "a>b");
         is("a WEEK can be undone", x.count(6), 1);
         is("refused", x.baby(4), -1);
         is("refused", x.baby(-1), -1);
@@ -542,9 +504,9 @@ public final class PromiseTests {
     private static void weeksTold() {
         promise = 12;
         EachBringsAnother x = of("1!;2a!;3ab;4a;5b", 2, 10);
-        is("nobody brings anybody", week(x, ""), 0);
+        is("nobody brings anybody", Feasts.week(x, ""), 0);
         is("LATE", x.of(0, 4), 1);
-        is("two bring, told backwards", week(x, "b>e;a>c"), 8);
+        is("two bring, told backwards", Feasts.week(x, "b>e;a>c"), 8);
         is("TEXT", x.count(8), 0);
         is("GUESTS", x.count(2), 0b10111);
         is("LATE", x.of(0, 4), 0);
@@ -552,9 +514,9 @@ public final class PromiseTests {
         is("BROUGHT", x.of(2, 5), 0);
         is("BROUGHT", x.of(4, 5), 1);
         is("WEEKS", x.count(1), 2);
-        is("one brings", week(x, "a>d"), 4);
+        is("one brings", Feasts.week(x, "a>d"), 4);
         is("LATE", x.of(1, 4), 1);
-        is("nobody", week(x, ""), 0);
+        is("nobody", Feasts.week(x, ""), 0);
         is("those OUT", x.count(4), 0b10110);
         is("GUESTS", x.count(2), 0b01001);
         is("paid", x.count(5), 12);
@@ -566,8 +528,8 @@ public final class PromiseTests {
             "1", "a>b;a>b;a>b;a>b;a>b;a>b;a>b;a>b;a>b;a>b;", "a>b;a>b;a>b;a>b;a>b;a>b;a>b;a>b;a>b;a>b;x", "a>b;x"};
         int[] at = {0, 0, 1, 2, 2, 4, 3, 1, 0, 0, 5, 0, 4, 3, 0, 40, 40, 4};
         for (int k = 0; k < texts.length; k++) {
-            EachBringsAnother x = of(FIVE);
-            is("week " + texts[k], week(x, texts[k]), -1 - at[k]);
+            EachBringsAnother x = of(Feasts.FIVE);
+            is("week " + texts[k], Feasts.week(x, texts[k]), -1 - at[k]);
             is("TEXT", x.count(8), 0);
             is("WEEKS", x.count(1), 0);
         }
@@ -576,48 +538,48 @@ public final class PromiseTests {
             "a>c;b>e;b>e"};
         int[] why = {-100, -100, -100, -100, -100, -100, -100, -101, -101, -102, -5, -102};
         for (int k = 0; k < cannot.length; k++) {
-            is("week " + cannot[k], week(x, cannot[k]), why[k]);
+            is("week " + cannot[k], Feasts.week(x, cannot[k]), why[k]);
             is("nothing changes", x.count(2) * 100 + x.count(1) * 10 + x.count(5), 3500);
         }
-        is("a STRANGER brings one it knows", week(of(FIVE), "d>b"), -100);
-        is("a STRANGER brings the first", week(of("1;2a;3!"), "b>a"), -100);
+        is("a STRANGER brings one it knows", Feasts.week(of(Feasts.FIVE), "d>b"), -100);
+        is("a STRANGER brings the first", Feasts.week(of("1;2a;3!"), "b>a"), -100);
         EachBringsAnother out = of("1!;2a!;3a;4b", 1, 10);
-        week(out, "b>d");
-        is("one who is OUT brings one it knows", week(out, "a>c"), -100);
-        is("one who is OUT is brought", week(out, "b>a"), -100);
+        Feasts.week(out, "b>d");
+        is("one who is OUT brings one it knows", Feasts.week(out, "a>c"), -100);
+        is("one who is OUT is brought", Feasts.week(out, "b>a"), -100);
         x.law(1, 3);
-        is("four GUESTS", week(x, "a>c;b>e"), -200);
-        is("a wrong PAIR ahead of SEATS", week(x, "a>c;b>c"), -101);
-        is("two GUESTS", week(x, "a>c"), 3);
+        is("four GUESTS", Feasts.week(x, "a>c;b>e"), -200);
+        is("a wrong PAIR ahead of SEATS", Feasts.week(x, "a>c;b>c"), -101);
+        is("two GUESTS", Feasts.week(x, "a>c"), 3);
         EachBringsAnother y = of("1!;2!;3a", 2, 2);
-        is("three GUESTS", week(y, "a>c"), -200);
+        is("three GUESTS", Feasts.week(y, "a>c"), -200);
         is("nobody brings: more may be", of("1!;2!;3!", 2, 1).week(), 0);
         y.law(0, 1);
-        is("b is OUT then", week(y, "a>c"), 3);
+        is("b is OUT then", Feasts.week(y, "a>c"), 3);
         EachBringsAnother z = of("0!;0!;0!;0!;0!;1a;1b;1c;1d;1e");
-        is("five PAIRS", week(z, "e>j;d>i;c>h;b>g;a>f"), 5);
+        is("five PAIRS", Feasts.week(z, "e>j;d>i;c>h;b>g;a>f"), 5);
     }
 
     private static void sixtyWeeks() {
         EachBringsAnother x = of("1!;1a");
         for (int k = 1; k <= 60; k++) {
-            is("week", week(x, ""), 0);
+            is("week", Feasts.week(x, ""), 0);
             is("count(1)", x.count(1), k);
         }
-        is("no more", week(x, ""), -300);
-        is("no more, ahead of PAIRS", week(x, "a>b"), -300);
-        is("behind what THE TEXT tells wrongly", week(x, "a>"), -3);
+        is("no more", Feasts.week(x, ""), -300);
+        is("no more, ahead of PAIRS", Feasts.week(x, "a>b"), -300);
+        is("behind what THE TEXT tells wrongly", Feasts.week(x, "a>"), -3);
         is("TEXT", x.count(8), 0);
         is("was(60)", x.was(60), 0);
         is("was(61)", x.was(61), -1);
-        land(x, "1!");
+        Feasts.land(x, "1!");
         is("goes", x.goes(5), 0);
         rowIs(x, 4, 0);
         is("was(60)", x.was(60), 4);
         is("of(2, 6)", x.of(2, 6), 60);
         EachBringsAnother y = of("1!;1a");
         for (int k = 0; k < 60; k++) {
-            week(y, "");
+            Feasts.week(y, "");
         }
         for (int k = 59; k >= 0; k--) {
             is("undo", y.undo(), k);
@@ -630,8 +592,8 @@ public final class PromiseTests {
         promise = 14;
         EachBringsAnother x = of("1!;2a;3a", 2, 10);
         is("none", x.undo(), -1);
-        week(x, "a>b");
-        week(x, "");
+        Feasts.week(x, "a>b");
+        Feasts.week(x, "");
         x.hide(2, true);
         x.law(0, 3);
         x.sheet(2, 3, 7, 0);
@@ -653,16 +615,16 @@ public final class PromiseTests {
         is("none", x.undo(), -1);
         EachBringsAnother y = of("1;2a!;3b");
         is("soonest", y.soonest(0), 1);
-        week(y, "b>a");
+        Feasts.week(y, "b>a");
         is("soonest", y.soonest(0), 0);
         is("undo", y.undo(), 0);
         is("BROUGHT", y.of(0, 5), -1);
         is("soonest", y.soonest(0), 1);
-        week(x, "");
+        Feasts.week(x, "");
         x.baby(1);
         is("a baby", x.undo(), -1);
         is("WEEKS", x.count(1), 1);
-        week(x, "");
+        Feasts.week(x, "");
         x.keep(0);
         is("keep", x.count(6), 1);
         x.again(0);
@@ -673,8 +635,8 @@ public final class PromiseTests {
 
     private static void byRule() {
         promise = 13;
-        EachBringsAnother x = of(FIVE);
-        rule(x, "p");
+        EachBringsAnother x = of(Feasts.FIVE);
+        Feasts.rule(x, "p");
         is("goes(-1)", x.goes(-1), -1);
         is("goes(61)", x.goes(61), -1);
         is("goes(0)", x.goes(0), 0);
@@ -699,10 +661,10 @@ public final class PromiseTests {
         is("nobody finds a SEAT", v.goes(60), 1);
         rowIs(v, 0, 0);
         EachBringsAnother u = of("1!;2!;3ab;4b?", 3, 10);
-        rule(u, "n");
+        Feasts.rule(u, "n");
         is("GUESTS by their numbers", u.goes(1), 1);
         is("BROUGHT", u.of(2, 5), 0);
-        rule(u, "-1");
+        Feasts.rule(u, "-1");
         is("below 0", u.goes(60), 3);
         rowIs(u, 0, 0);
         is("b can stay", u.was(2), 7);
@@ -748,13 +710,13 @@ public final class PromiseTests {
         is("none such", x.picks(6), -1);
         is("none such", x.picks(-1), -1);
         is("none such", x.picks(Integer.MAX_VALUE), -1);
-        rule(x, "p");
+        Feasts.rule(x, "p");
         is("picks(0)", x.picks(0), 3);
         is("picks(1)", x.picks(1), 4);
-        rule(x, "3-p");
+        Feasts.rule(x, "3-p");
         is("picks(0)", x.picks(0), 2);
         is("-1 is below 0", x.picks(1), -2);
-        rule(x, "");
+        Feasts.rule(x, "");
         x.law(1, 4);
         is("a SEAT", x.picks(0), 2);
         is("no SEAT", x.picks(1), -2);
@@ -790,7 +752,7 @@ public final class PromiseTests {
         EachBringsAnother x = of("1!;2!;3!;4ab;5c;6c");
         is("a and b know d alone", x.bars(), 3);
         rowIs(x, 1, 8);
-        is("all can", of(FIVE).bars(), 0);
+        is("all can", of(Feasts.FIVE).bars(), 0);
         x.hide(3, true);
         is("a and b know none", x.bars(), 3);
         rowIs(x, 2, 0);
@@ -902,7 +864,7 @@ public final class PromiseTests {
 
     private static void mostAndFewest() {
         promise = 20;
-        EachBringsAnother x = of(FIVE);
+        EachBringsAnother x = of(Feasts.FIVE);
         int[] most = {1, 2, 4, 2, 2, 0};
         int[] states = {1, 3, 0, 0, 0, 0};
         for (int n = 0; n < most.length; n++) {
@@ -946,7 +908,7 @@ public final class PromiseTests {
 
     private static void crowdAndBoth() {
         promise = 23;
-        EachBringsAnother x = of(FIVE);
+        EachBringsAnother x = of(Feasts.FIVE);
         is("crowd", x.crowd(), 2);
         rowIs(x, 4, 9);
         x.law(1, 3);
@@ -974,16 +936,16 @@ public final class PromiseTests {
         is("both(-1, 0, 1)", x.both(-1, 0, 1), -1);
         is("both(0, 1, 61)", x.both(0, 1, 61), -1);
         is("both(0, 1, -1)", x.both(0, 1, -1), -1);
-        week(x, "a>b");
+        Feasts.week(x, "a>b");
         is("from now on", x.both(0, 1, 0), 0);
     }
 
     private static void lastAndBegin() {
         promise = 25;
-        EachBringsAnother x = of(FIVE);
+        EachBringsAnother x = of(Feasts.FIVE);
         is("last", x.last(), 4);
         rowIs(x, 2);
-        is("WEEKS that went by are none of it", week(x, "a>b"), 2);
+        is("WEEKS that went by are none of it", Feasts.week(x, "a>b"), 2);
         is("last", x.last(), 3);
         EachBringsAnother alone = of("1!;2!", 3, 10);
         is("last", alone.last(), 2);
@@ -993,7 +955,7 @@ public final class PromiseTests {
         rowIs(alone, 2);
         is("nobody", of("1;2a").last(), -2);
         promise = 26;
-        EachBringsAnother y = of(FIVE);
+        EachBringsAnother y = of(Feasts.FIVE);
         is("begin", y.begin(), 1);
         rowIs(y, 1);
         is("last() is 0", alone.begin(), -2);
@@ -1012,7 +974,7 @@ public final class PromiseTests {
 
     private static void cheapest() {
         promise = 27;
-        EachBringsAnother x = of(FIVE);
+        EachBringsAnother x = of(Feasts.FIVE);
         int[] due = {0, 2, 5, 9, 14, -2};
         for (int n = 0; n < due.length; n++) {
             is("cheap(" + n + ")", x.cheap(n), due[n]);
@@ -1037,7 +999,7 @@ public final class PromiseTests {
         rowIs(y);
         is("nine", y.cheap(9), 18);
         rowIs(y);
-        week(y, "");
+        Feasts.week(y, "");
         is("LATE 1", y.cheap(1), 2);
         rowIs(y, 4);
         is("of ways as cheap the least that lasts", y.cheap(8), 18);
@@ -1058,7 +1020,7 @@ public final class PromiseTests {
 
     private static void staying() {
         promise = 28;
-        EachBringsAnother x = of(FIVE);
+        EachBringsAnother x = of(Feasts.FIVE);
         is("stays(0)", x.stays(0), 2);
         rowIs(x, 1);
         is("a STRANGER", x.stays(1), -2);
@@ -1081,7 +1043,7 @@ public final class PromiseTests {
         EachBringsAnother seats = of("1;2a!;3!", 2, 2);
         is("no SEAT while c is one", seats.stays(1), 3);
         rowIs(seats, -1);
-        week(seats, "");
+        Feasts.week(seats, "");
         is("now there is", seats.stays(1), 2);
         rowIs(seats, 0);
         EachBringsAnother three = of("1;2a!;3!;4c", 1, 3);
@@ -1098,13 +1060,13 @@ public final class PromiseTests {
         is("none such", x.soonest(-1), -1);
         x.hide(3, true);
         is("never", x.soonest(4), -2);
-        week(x, "");
+        Feasts.week(x, "");
         is("OUT", x.soonest(0), -2);
     }
 
     private static void withoutOne() {
         promise = 30;
-        EachBringsAnother x = of(FIVE);
+        EachBringsAnother x = of(Feasts.FIVE);
         int[] worth = {-1, 1, 1, 2, 1, -1};
         for (int p = 0; p < worth.length; p++) {
             is("worth(" + p + ")", x.worth(p), worth[p]);
@@ -1115,7 +1077,7 @@ public final class PromiseTests {
         is("nobody is a GUEST", of("1;2a").worth(0), -2);
         is("of no use", of("1!;2a;3").worth(2), 0);
         promise = 31;
-        EachBringsAnother y = of(FIVE);
+        EachBringsAnother y = of(Feasts.FIVE);
         is("needed", y.needed(), 30);
         y.hide(4, true);
         is("needed", y.needed(), 14);
@@ -1128,7 +1090,7 @@ public final class PromiseTests {
         is("never", y.never(), 24);
         y.law(1, 1);
         is("one SEAT", y.never(), 30);
-        is("all can", of(FIVE).never(), 0);
+        is("all can", of(Feasts.FIVE).never(), 0);
         is("nobody is a GUEST", of("1;2a").never(), 3);
         is("nobody", new EachBringsAnother().never(), 0);
     }
@@ -1137,22 +1099,22 @@ public final class PromiseTests {
         promise = 31;
         is("the first one", of("1;2a!").needed(), 1);
         promise = 33;
-        EachBringsAnother x = of(FIVE);
+        EachBringsAnother x = of(Feasts.FIVE);
         is("bound", x.bound(), 4);
         x.law(0, 3);
         is("bound", x.bound(), 14);
-        week(x, "");
+        Feasts.week(x, "");
         is("LATE 1", x.bound(), 13);
-        week(x, "");
+        Feasts.week(x, "");
         is("LATE 2", x.bound(), 12);
         x.law(0, 2);
         is("1 at least", x.bound(), 8);
         x.hide(3, true);
         is("behind a HIDDEN one", x.bound(), 4);
-        week(x, "");
+        Feasts.week(x, "");
         is("nobody is a GUEST", x.bound(), -2);
         EachBringsAnother y = of("1!;2a!;3b;4", 2, 10);
-        week(y, "b>c");
+        Feasts.week(y, "b>c");
         is("the least LATE", y.bound(), 1);
         is("one that none knows", y.count(3), 8);
         promise = 34;
@@ -1175,7 +1137,7 @@ public final class PromiseTests {
         rowIs(z, 3, 4);
         z.hide(3, true);
         is("none leads there", z.far(5), -2);
-        week(z, "");
+        Feasts.week(z, "");
         is("OUT", z.far(0), -2);
         EachBringsAnother chain = of("0!;0a;0b;0c;0d;0e;0f;0g;0h;0i");
         is("the longest", chain.far(9), 9);
@@ -1184,9 +1146,9 @@ public final class PromiseTests {
 
     private static EachBringsAnother family() {
         EachBringsAnother x = of("1!;2a;3a;4bc;5d;6!;7f", 3, 10);
-        week(x, "a>c;f>g");
-        week(x, "a>b;c>d");
-        week(x, "d>e");
+        Feasts.week(x, "a>c;f>g");
+        Feasts.week(x, "a>b;c>d");
+        Feasts.week(x, "d>e");
         return x;
     }
 
@@ -1201,8 +1163,8 @@ public final class PromiseTests {
         is("none such", x.line(-1), -1);
         rowIs(x, 0, 2, 3);
         EachBringsAnother first = of("1;2a!;3a");
-        week(first, "b>a");
-        week(first, "a>c");
+        Feasts.week(first, "b>a");
+        Feasts.week(first, "a>c");
         is("line(2)", first.line(2), 2);
         rowIs(first, 1, 0);
         promise = 36;
@@ -1259,12 +1221,12 @@ public final class PromiseTests {
         is("keep(-1)", x.keep(-1), false);
         is("keep(2)", x.keep(2), false);
         is("keep(0)", x.keep(0), true);
-        week(x, "a>b");
+        Feasts.week(x, "a>b");
         x.hide(2, true);
         x.law(0, 3);
         x.law(1, 4);
         is("keep(1)", x.keep(1), true);
-        week(x, "");
+        Feasts.week(x, "");
         x.hide(2, false);
         x.sheet(2, 3, 8, 0);
         x.meet(0, 2, true);
@@ -1299,21 +1261,21 @@ public final class PromiseTests {
         is("PEOPLE came since", x.again(1), false);
         is("keep(1)", x.keep(1), true);
         is("again(1)", x.again(1), true);
-        week(x, "");
+        Feasts.week(x, "");
         is("refused", x.again(0), false);
         is("a refused one lets it be undone", x.undo(), 1);
         EachBringsAnother sixty = of("1!", 3, 10);
         for (int k = 0; k < 58; k++) {
-            week(sixty, "");
+            Feasts.week(sixty, "");
         }
-        land(sixty, "1!");
+        Feasts.land(sixty, "1!");
         sixty.keep(0);
         is("goes", sixty.goes(60), 2);
         sixty.keep(1);
         is("again", sixty.again(0), true);
         sixty.law(0, 1);
-        week(sixty, "");
-        week(sixty, "");
+        Feasts.week(sixty, "");
+        Feasts.week(sixty, "");
         is("was(60)", sixty.was(60) + sixty.was(59), 0);
         is("again", sixty.again(1), true);
         is("was(59)", sixty.was(59), 2);
@@ -1322,13 +1284,13 @@ public final class PromiseTests {
         is("LATE", sixty.of(1, 4), 2);
         EachBringsAnother other = of("1!;2a");
         other.keep(0);
-        week(other, "a>b");
+        Feasts.week(other, "a>b");
         is("soonest(1)", other.soonest(1), 0);
         is("again", other.again(0), true);
         is("soonest(1)", other.soonest(1), 1);
         EachBringsAnother nobody = new EachBringsAnother();
         is("keep nobody", nobody.keep(1), true);
-        week(nobody, "");
+        Feasts.week(nobody, "");
         is("again", nobody.again(1), true);
         is("WEEKS", nobody.count(1), 0);
     }
@@ -1336,7 +1298,7 @@ public final class PromiseTests {
     private static void counted() {
         promise = 42;
         EachBringsAnother x = of("1!;2a;3a?;4!", 1, 10);
-        week(x, "a>b");
+        Feasts.week(x, "a>b");
         x.can();
         x.sign(0);
         int[] due = {4, 1, 0b0011, 0b0100, 0b1000, 2, 1, 1, 4, 0b0100};
@@ -1350,7 +1312,7 @@ public final class PromiseTests {
 
     private static void rows() {
         promise = 43;
-        EachBringsAnother x = of(FIVE);
+        EachBringsAnother x = of(Feasts.FIVE);
         throwsNone("row(0) at first", () -> x.row(0));
         x.goes(0);
         is("row(0)", x.row(0), 1);
@@ -1362,7 +1324,7 @@ public final class PromiseTests {
         is("stays with NONE", x.row(1), 0);
         x.cheap(60);
         is("stays with -2", x.row(1), 0);
-        week(x, "x");
+        Feasts.week(x, "x");
         is("stays", x.count(7), 2);
         x.far(0);
         throwsNone("an empty ROW", () -> x.row(0));

@@ -5,11 +5,15 @@ import java.util.Random;
 
 /** Long runs of calls, drawn with fixed seeds, that the class and PlainFeast have to answer alike. */
 public final class RandomRuns {
+    private static final int MOST_CALLS = 512;
+    private static final int MOST_CALLS_OF_A_STEP = 64;
+
     private final Random random;
     private final EachBringsAnother x = new EachBringsAnother();
     private final PlainFeast y = new PlainFeast();
     private final List<String> log = new ArrayList<>();
     private final int people;
+    private int used;
 
     private RandomRuns(long seed) {
         random = new Random(seed);
@@ -36,47 +40,50 @@ public final class RandomRuns {
         }
     }
 
+    /** What an object answers behind its 512th call is free. */
+    private EachBringsAnother x() {
+        used++;
+        return x;
+    }
+
     private String run() {
-        int calls = 0;
-        int all = random.nextInt(10) == 0 ? 500 : 60 + random.nextInt(60);
-        while (calls < all) {
-            int before = log.size();
+        int all = random.nextInt(3) == 0 ? MOST_CALLS : 150 + random.nextInt(150);
+        while (used + MOST_CALLS_OF_A_STEP < all) {
+            int before = used;
             try {
-                if (calls == 0 || y.count(0) == 0 && random.nextInt(4) > 0) {
+                if (used == 0 || y.count(0) == 0 && random.nextInt(4) > 0) {
                     found();
                 } else if (y.count(2) == 0 && random.nextInt(8) > 0) {
                     revive();
                 } else {
                     step();
                 }
+                compareRows();
+            } catch (IllegalStateException e) {
+                return behind(e.getMessage());
             } catch (RuntimeException e) {
-                return "threw " + e + " behind " + log.subList(Math.max(0, log.size() - 12), log.size()) + " " + y;
+                return behind("threw " + e);
             }
-            calls += log.size() - before;
-            String wrong = compareRows();
-            if (wrong != null) {
-                return wrong + " behind " + log.subList(Math.max(0, log.size() - 12), log.size()) + " " + y;
+            if (used - before > MOST_CALLS_OF_A_STEP) {
+                return behind("a step of " + (used - before) + " calls");
             }
         }
         return null;
     }
 
-    private String compareRows() {
-        String last = log.get(log.size() - 1);
-        if (last.contains("!=")) {
-            return last;
+    private String behind(String wrong) {
+        return wrong + " behind " + log.subList(Math.max(0, log.size() - 12), log.size()) + " " + y;
+    }
+
+    private void compareRows() {
+        for (int k = 0; k < 3; k++) {
+            int what = random.nextInt(10);
+            same("count(" + what + ")", x().count(what), y.count(what));
         }
-        for (int what = -1; what <= 10; what++) {
-            if (x.count(what) != y.count(what)) {
-                return "count(" + what + ") " + x.count(what) + " != " + y.count(what);
-            }
-        }
+        same("count(7)", x().count(7), y.count(7));
         for (int i = 0; i < y.count(7); i++) {
-            if (x.row(i) != y.row(i)) {
-                return "row(" + i + ") " + x.row(i) + " != " + y.row(i);
-            }
+            same("row(" + i + ")", x().row(i), y.row(i));
         }
-        return null;
     }
 
     private void same(String call, int a, int b) {
@@ -118,7 +125,7 @@ public final class RandomRuns {
     }
 
     private void tell(String t) {
-        x.end(0);
+        x().end(0);
         y.end(0);
         StringBuilder padded = new StringBuilder(t);
         while (padded.length() % 4 != 0) {
@@ -126,9 +133,9 @@ public final class RandomRuns {
         }
         for (int k = 0; k + 4 <= padded.length(); k += 4) {
             int v = padded.charAt(k) << 24 | padded.charAt(k + 1) << 16 | padded.charAt(k + 2) << 8 | padded.charAt(k + 3);
-            same("sign", x.sign(v), y.sign(v));
+            same("sign", x().sign(v), y.sign(v));
         }
-        same("end(" + t.length() + ") of " + t, x.end(t.length()), y.end(t.length()));
+        same("end(" + t.length() + ") of " + t, x().end(t.length()), y.end(t.length()));
     }
 
     /** Sometimes a sign is changed, taken away or put in. */
@@ -221,10 +228,10 @@ public final class RandomRuns {
     /** A LAND to begin with, that is kept. */
     private void found() {
         tell(landText(random.nextInt(4) > 0));
-        same("land", x.land(), y.land());
+        same("land", x().land(), y.land());
         int v = 1 + random.nextInt(3);
-        same("law(0," + v + ")", x.law(0, v), y.law(0, v));
-        same("keep(0)", x.keep(0), y.keep(0));
+        same("law(0," + v + ")", x().law(0, v), y.law(0, v));
+        same("keep(0)", x().keep(0), y.keep(0));
     }
 
     /** Somebody may be a GUEST again. */
@@ -232,17 +239,17 @@ public final class RandomRuns {
         int i = random.nextInt(2);
         switch (random.nextInt(3)) {
             case 0:
-                same("undo", x.undo(), y.undo());
+                same("undo", x().undo(), y.undo());
                 break;
             case 1:
-                same("again(" + i + ")", x.again(i), y.again(i));
+                same("again(" + i + ")", x().again(i), y.again(i));
                 break;
             default:
                 if (y.count(0) == 10) {
-                    same("undo", x.undo(), y.undo());
+                    same("undo", x().undo(), y.undo());
                 } else {
                     tell(random.nextInt(10) + (random.nextBoolean() ? "a!" : "!"));
-                    same("land", x.land(), y.land());
+                    same("land", x().land(), y.land());
                 }
         }
     }
@@ -290,18 +297,18 @@ public final class RandomRuns {
     private void people() {
         if (y.count(0) < people && random.nextInt(4) > 0) {
             tell(spoil(landText(false)));
-            same("land", x.land(), y.land());
+            same("land", x().land(), y.land());
         } else if (random.nextInt(3) == 0) {
             int bits = random.nextInt(4) == 0 ? number(0, 1023) : random.nextInt(1 << y.count(0));
             if (y.count(0) < people || bits >> y.count(0) != 0 || random.nextInt(3) == 0) {
-                same("baby(" + bits + ")", x.baby(bits), y.baby(bits));
+                same("baby(" + bits + ")", x().baby(bits), y.baby(bits));
             } else {
-                same("end(0)", x.end(0), y.end(0));
-                same("land", x.land(), y.land());
+                same("end(0)", x().end(0), y.end(0));
+                same("land", x().land(), y.land());
             }
         } else {
             tell(spoil(expression(0)));
-            same("rule", x.rule(), y.rule());
+            same("rule", x().rule(), y.rule());
         }
     }
 
@@ -314,21 +321,21 @@ public final class RandomRuns {
             case 0: {
                 int what = number(0, 1);
                 int v = number(1, what == 0 ? 3 : 10);
-                same("law(" + what + "," + v + ")", x.law(what, v), y.law(what, v));
+                same("law(" + what + "," + v + ")", x().law(what, v), y.law(what, v));
                 break;
             }
             case 1:
-                same("meet(" + p + "," + q + "," + is + ")", x.meet(p, q, is), y.meet(p, q, is));
+                same("meet(" + p + "," + q + "," + is + ")", x().meet(p, q, is), y.meet(p, q, is));
                 break;
             case 2:
-                same("hide(" + p + "," + hidden + ")", x.hide(p, hidden), y.hide(p, hidden));
+                same("hide(" + p + "," + hidden + ")", x().hide(p, hidden), y.hide(p, hidden));
                 break;
             case 3: {
                 int kind = number(0, random.nextInt(4) == 0 ? 3 : 2);
                 int n = random.nextInt(4) == 0 ? number(-1, 10) : 10;
                 int f = random.nextInt(3) > 0 ? random.nextInt(10) : random.nextInt() >> random.nextInt(28);
                 int step = random.nextInt(3) > 0 ? random.nextInt(4) : random.nextInt() >> random.nextInt(28);
-                same("sheet(" + kind + "," + n + "," + f + "," + step + ")", x.sheet(kind, n, f, step),
+                same("sheet(" + kind + "," + n + "," + f + "," + step + ")", x().sheet(kind, n, f, step),
                     y.sheet(kind, n, f, step));
                 break;
             }
@@ -341,7 +348,7 @@ public final class RandomRuns {
 
     private int ofClass(int p, int what) {
         try {
-            return x.of(p, what);
+            return x().of(p, what);
         } catch (NoSuchElementException e) {
             return -99;
         }
@@ -360,19 +367,19 @@ public final class RandomRuns {
             case 0:
             case 1:
                 tell(spoil(weekText()));
-                same("week", x.week(), y.week());
+                same("week", x().week(), y.week());
                 break;
             case 2: {
                 int n = random.nextInt(4) == 0 ? weeks() : number(0, 2);
-                same("goes(" + n + ")", x.goes(n), y.goes(n));
+                same("goes(" + n + ")", x().goes(n), y.goes(n));
                 break;
             }
             case 3:
-                same("undo", x.undo(), y.undo());
+                same("undo", x().undo(), y.undo());
                 break;
             default:
                 tell(weekText());
-                same("week", x.week(), y.week());
+                same("week", x().week(), y.week());
         }
     }
 
@@ -380,16 +387,16 @@ public final class RandomRuns {
         int p = person();
         switch (random.nextInt(4)) {
             case 0:
-                same("can", x.can(), y.can());
+                same("can", x().can(), y.can());
                 break;
             case 1:
-                same("picks(" + p + ")", x.picks(p), y.picks(p));
+                same("picks(" + p + ")", x().picks(p), y.picks(p));
                 break;
             case 2:
-                same("pairs", x.pairs(), y.pairs());
+                same("pairs", x().pairs(), y.pairs());
                 break;
             default:
-                same("bars", x.bars(), y.bars());
+                same("bars", x().bars(), y.bars());
         }
     }
 
@@ -399,55 +406,55 @@ public final class RandomRuns {
         int n = weeks();
         switch (random.nextInt(14)) {
             case 0:
-                same("states", x.states(), y.states());
+                same("states", x().states(), y.states());
                 break;
             case 1:
-                same("most(" + n + ")", x.most(n), y.most(n));
+                same("most(" + n + ")", x().most(n), y.most(n));
                 break;
             case 2:
-                same("reach(" + n + ")", x.reach(n), y.reach(n));
+                same("reach(" + n + ")", x().reach(n), y.reach(n));
                 break;
             case 3:
-                same("fewest(" + n + ")", x.fewest(n), y.fewest(n));
+                same("fewest(" + n + ")", x().fewest(n), y.fewest(n));
                 break;
             case 4:
-                same("crowd", x.crowd(), y.crowd());
+                same("crowd", x().crowd(), y.crowd());
                 break;
             case 5:
-                same("both(" + p + "," + q + "," + n + ")", x.both(p, q, n), y.both(p, q, n));
+                same("both(" + p + "," + q + "," + n + ")", x().both(p, q, n), y.both(p, q, n));
                 break;
             case 6:
-                same("last", x.last(), y.last());
+                same("last", x().last(), y.last());
                 break;
             case 7:
-                same("begin", x.begin(), y.begin());
+                same("begin", x().begin(), y.begin());
                 break;
             case 8:
-                same("cheap(" + n + ")", x.cheap(n), y.cheap(n));
+                same("cheap(" + n + ")", x().cheap(n), y.cheap(n));
                 break;
             case 9:
-                same("stays(" + p + ")", x.stays(p), y.stays(p));
+                same("stays(" + p + ")", x().stays(p), y.stays(p));
                 break;
             case 10:
-                same("soonest(" + p + ")", x.soonest(p), y.soonest(p));
+                same("soonest(" + p + ")", x().soonest(p), y.soonest(p));
                 break;
             case 11:
-                same("worth(" + p + ")", x.worth(p), y.worth(p));
+                same("worth(" + p + ")", x().worth(p), y.worth(p));
                 break;
             case 12:
-                same("needed", x.needed(), y.needed());
+                same("needed", x().needed(), y.needed());
                 break;
             default:
-                same("never", x.never(), y.never());
+                same("never", x().never(), y.never());
         }
     }
 
     private void bounds() {
         int p = person();
         if (random.nextBoolean()) {
-            same("bound", x.bound(), y.bound());
+            same("bound", x().bound(), y.bound());
         } else {
-            same("far(" + p + ")", x.far(p), y.far(p));
+            same("far(" + p + ")", x().far(p), y.far(p));
         }
     }
 
@@ -457,19 +464,19 @@ public final class RandomRuns {
         int w = number(0, Math.max(1, y.count(1)));
         switch (random.nextInt(5)) {
             case 0:
-                same("line(" + p + ")", x.line(p), y.line(p));
+                same("line(" + p + ")", x().line(p), y.line(p));
                 break;
             case 1:
-                same("led(" + p + ")", x.led(p), y.led(p));
+                same("led(" + p + ")", x().led(p), y.led(p));
                 break;
             case 2:
-                same("was(" + w + ")", x.was(w), y.was(w));
+                same("was(" + w + ")", x().was(w), y.was(w));
                 break;
             case 3:
-                same("common(" + p + "," + q + ")", x.common(p, q), y.common(p, q));
+                same("common(" + p + "," + q + ")", x().common(p, q), y.common(p, q));
                 break;
             default:
-                same("father", x.father(), y.father());
+                same("father", x().father(), y.father());
         }
     }
 
@@ -477,9 +484,9 @@ public final class RandomRuns {
         int i = number(0, 1);
         if (random.nextInt(4) == 0) {
             i = random.nextInt(3) == 0 ? i : 1;
-            same("keep(" + i + ")", x.keep(i), y.keep(i));
+            same("keep(" + i + ")", x().keep(i), y.keep(i));
         } else {
-            same("again(" + i + ")", x.again(i), y.again(i));
+            same("again(" + i + ")", x().again(i), y.again(i));
         }
     }
 }

@@ -306,12 +306,20 @@ final class LandEdges {
         Sentences.is("0 of all", x.picks(0), 1);
         Sentences.is("once more", x.rule(), 0);
         Sentences.is("0 of all", x.picks(0), 1);
+        EachBringsAnother y = Feasts.feastBy("p", "0!;1a;2a");
+        Sentences.is("by PRICE", y.picks(0), 2);
+        Sentences.is("an empty one", y.rule(), 0);
+        Sentences.is("the first", y.picks(0), 1);
     }
 
     private static void ruleIs(String text, int due) {
         EachBringsAnother x = Feasts.feastBy("p-2", "0!;1a;2a");
         Sentences.is("rule " + text, Feasts.rule(x, text), due);
         Sentences.is("THE RULE behind " + text, x.picks(0), 2);
+        Sentences.is("another RULE behind " + text, Feasts.rule(x, "((((2-p))))<1"), 0);
+        Sentences.is("by that RULE", x.picks(0), 2);
+        Sentences.is("one more", Feasts.rule(x, "2-((((p))))"), 0);
+        Sentences.is("by that RULE", x.picks(0), 1);
     }
 
     private static void wrongRule() {
@@ -333,6 +341,11 @@ final class LandEdges {
         ruleIs("-".repeat(80), -41);
         ruleIs("1" + "x".repeat(79), -2);
         ruleIs("x", -1);
+        ruleIs("p<i+", -5);
+        ruleIs("(p<i+(2=", -9);
+        ruleIs("p<i<2", -4);
+        ruleIs("---", -4);
+        ruleIs("((((", -5);
         ruleIs("p+", -3);
         ruleIs("(p", -3);
         ruleIs("(", -2);

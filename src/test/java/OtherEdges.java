@@ -406,6 +406,36 @@ final class OtherEdges {
         Sentences.is("all under 0", Feasts.picture(x), ahead);
         x.again(1);
         Sentences.is("all under 1, once more", Feasts.picture(x), behind);
+        weeksAsTheyWereKept();
+    }
+
+    private static void weeksAsTheyWereKept() {
+        EachBringsAnother x = Feasts.feast("0!;0a");
+        Feasts.week(x, "a>b");
+        x.keep(0);
+        x.undo();
+        Feasts.pass(x, 2);
+        Sentences.is("was(1)", x.was(1), 0);
+        x.again(0);
+        Sentences.is("WEEKS", x.count(1), 1);
+        Sentences.is("was(1) as it was kept", x.was(1), 3);
+        Sentences.is("was(2)", x.was(2), -1);
+        EachBringsAnother sixty = Feasts.feast("0");
+        Feasts.pass(sixty, 58);
+        sixty.baby(0);
+        Feasts.land(sixty, "0!");
+        sixty.law(0, 3);
+        sixty.keep(0);
+        Feasts.pass(sixty, 2);
+        sixty.keep(1);
+        sixty.again(0);
+        sixty.law(0, 1);
+        Feasts.pass(sixty, 2);
+        Sentences.is("was(59), was(60)", sixty.was(59) + sixty.was(60), 0);
+        sixty.again(1);
+        Sentences.is("was(59) as it was kept", sixty.was(59), 4);
+        Sentences.is("was(60) as it was kept", sixty.was(60), 4);
+        Sentences.is("LATE as it was kept", sixty.of(2, 4), 2);
     }
 
     private static void nothingKept() {

@@ -207,6 +207,9 @@ final class SearchEdges {
         }
         x.most(60);
         Sentences.rowIs(x, 4);
+        EachBringsAnother full = Feasts.feast("0!;0!;0!;0!;0!;0abcde;0abcde;0abcde;0abcde;0abcde");
+        Sentences.is("all may come", full.most(1), 10);
+        Sentences.rowIs(full, 252);
         EachBringsAnother nobody = new EachBringsAnother();
         for (int n : new int[] {0, 1, 60}) {
             Sentences.is("of nobody", nobody.most(n), 0);
@@ -428,8 +431,10 @@ final class SearchEdges {
             Sentences.is("cheap(" + n + ")", x.cheap(n), cheap[n]);
         }
         Sentences.is("cheap(60)", x.cheap(60), -2);
-        x.cheap(2);
-        x.cheap(0);
+        Feasts.pass(x, 1);
+        x.cheap(1);
+        Sentences.rowIs(x, 2);
+        Sentences.is("cheap(0)", x.cheap(0), 0);
         Sentences.rowIs(x);
         EachBringsAnother long29 = Feasts.feast(Feasts.CHAIN, 3, 2);
         long29.sheet(2, 10, 9, 0);
@@ -481,7 +486,17 @@ final class SearchEdges {
         Sentences.is("b", x.stays(1), 2);
         EachBringsAnother y = Feasts.feast("0!;0!;0b");
         Sentences.is("0: just now", y.stays(0), 0);
+        Sentences.rowIs(y, -1);
         Sentences.is("1", y.stays(1), 1);
+        Sentences.rowIs(y, 2);
+        EachBringsAnother each = Feasts.feast("0!;0!;0a;0b");
+        Sentences.is("a itself", each.stays(0), 1);
+        Sentences.rowIs(each, 2);
+        Sentences.is("b itself", each.stays(1), 1);
+        Sentences.rowIs(each, 3);
+        EachBringsAnother first = Feasts.feast("0;0a!");
+        Sentences.is("with the first", first.stays(1), 1);
+        Sentences.rowIs(first, 0);
         EachBringsAnother all = Feasts.feast("0!;0a;0a;0a;0a;0a;0a;0a;0a;0a", 1, 10);
         Sentences.is("nine it KNOWS", all.stays(0), 9);
         Sentences.rowIs(all, 1);
@@ -590,6 +605,7 @@ final class SearchEdges {
         Sentences.is("d alone", y.needed(), 0b1000);
         Sentences.is("without STRANGERS", Feasts.feast("0!").needed(), 0);
         Sentences.is("all nine", Feasts.feast(Feasts.CHAIN, 3, 2).needed(), 1022);
+        Sentences.is("the first", Feasts.feast("0;0a!").needed(), 1);
     }
 
     private static void neededWithoutLast() {

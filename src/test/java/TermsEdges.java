@@ -153,6 +153,9 @@ final class TermsEdges {
         EachBringsAnother x = Feasts.feast("1;1!;1?;1!?;1ab!?");
         int[] is = {0, 1, 0, 1, 1};
         int[] hidden = {0, 0, 1, 1, 1};
+        Feasts.land(x, "2!?;2?;2!;2");
+        Sentences.is("GUESTS of both LANDS", x.count(2), 0b010111010);
+        Sentences.is("HIDDEN ones of both LANDS", x.count(9), 0b001111100);
         for (int p = 0; p < 5; p++) {
             Sentences.is("of(" + p + ", 3)", x.of(p, 3), is[p]);
             Sentences.is("of(" + p + ", 4)", x.of(p, 4), is[p] == 1 ? 0 : -1);
@@ -260,10 +263,10 @@ final class TermsEdges {
     /** What an EXPRESSION of the STRANGER b (PRICE 7), whom a alone would bring, has to be: -999 .. 999. */
     private static void valueIs(String expression, int due) {
         EachBringsAnother x = Feasts.feast("1!;7a");
-        Sentences.is(expression + " can stand there", Feasts.rule(x, "-1+((" + expression + ")=" + due + ")"), 0);
-        Sentences.is(expression + " = " + due + " brings", x.picks(0), 1);
-        Feasts.rule(x, "-((" + expression + ")=" + due + ")");
-        Sentences.is("-(" + expression + " = " + due + ") brings", x.picks(0), -2);
+        Sentences.is(expression + " can stand there", Feasts.rule(x, "(" + expression + ")-" + due), 0);
+        Sentences.is(expression + " is " + due + " at least", x.picks(0), 1);
+        Sentences.is(expression + " can stand there", Feasts.rule(x, "(" + expression + ")-" + due + "-1"), 0);
+        Sentences.is(expression + " is no more than " + due, x.picks(0), -2);
     }
 
     private static void ruleIs(String text, int due) {
@@ -283,6 +286,10 @@ final class TermsEdges {
         valueIs("-1<0", 1);
         valueIs("(1<2)<2", 1);
         valueIs("3>(2>1)", 1);
+        valueIs("(3=3)+(3=2)+(2=3)", 1);
+        ruleIs("1+2<3", 0);
+        ruleIs("(1+2)<3", 0);
+        ruleIs("1<2+3", 0);
         ruleIs("1<2<3", -4);
         ruleIs("1=2>3", -4);
         ruleIs("1>2+3=4", -6);
@@ -290,6 +297,14 @@ final class TermsEdges {
         ruleIs("(1<2)<(3<4)", 0);
         ruleIs("(1<2)<3<4", -8);
         ruleIs("1<(2<3)<4", -8);
+        EachBringsAnother x = Feasts.feastBy("p-8<0", "1!;7a");
+        Sentences.is("7 - 8 < 0 is 1", x.picks(0), 1);
+        Feasts.rule(x, "0-p<8");
+        Sentences.is("0 - 7 < 8 is 1", x.picks(0), 1);
+        Feasts.rule(x, "-(8>p)");
+        Sentences.is("-(8 > 7) is -1", x.picks(0), -2);
+        Feasts.rule(x, "-(8=p)");
+        Sentences.is("-(8 = 7) is 0", x.picks(0), 1);
     }
 
     private static void sums() {
@@ -351,6 +366,12 @@ final class TermsEdges {
         ruleIs("(1)000", -4);
         ruleIs("12p", -3);
         ruleIs("p12", -2);
+        EachBringsAnother x = Feasts.feastBy("0-1+0", "1!;7a");
+        x.law(0, 3);
+        Feasts.pass(x, 2);
+        Sentences.is("0 is a NUMBER in later WEEKS, too", x.picks(0), -2);
+        Feasts.rule(x, "0*1");
+        Sentences.is("0 * 1", x.picks(0), 1);
     }
 
     private static void inOneAnother() {
@@ -489,6 +510,10 @@ final class TermsEdges {
         Sentences.is("a would stay, so no SEAT for b's", x.picks(1), -2);
         x.law(1, 3);
         Sentences.is("a SEAT", x.picks(1), 2);
+        EachBringsAnother between = Feasts.feast("0!;0a;0!", 2, 2);
+        Sentences.is("c would stay, so no SEAT for b", between.picks(0), -2);
+        between.law(1, 3);
+        Sentences.is("a SEAT for b", between.picks(0), 1);
     }
 
     private static void sixtyWeeks() {
@@ -554,6 +579,36 @@ final class TermsEdges {
         x.law(1, 1);
         Sentences.is("SEATS as they are", x.last(), 1);
         Sentences.is("no WEEK went by", x.count(1), 1);
+        behindEachChange();
+    }
+
+    private static void behindEachChange() {
+        EachBringsAnother x = Feasts.feast("0!;0a");
+        Sentences.is("last", x.last(), 1);
+        x.hide(1, true);
+        Sentences.is("HIDDEN", x.last(), 0);
+        x.hide(1, false);
+        Sentences.is("not HIDDEN", x.last(), 1);
+        x.meet(0, 1, false);
+        Sentences.is("not KNOWN", x.last(), 0);
+        x.meet(1, 0, true);
+        Sentences.is("KNOWN", x.last(), 1);
+        x.baby(2);
+        Sentences.is("a baby that b KNOWS", x.last(), 2);
+        Feasts.land(x, "0c");
+        Sentences.is("one that the baby KNOWS", x.last(), 3);
+        x.keep(0);
+        x.goes(1);
+        Sentences.is("behind a WEEK by THE RULE", x.last(), 2);
+        x.undo();
+        Sentences.is("undone", x.last(), 3);
+        Feasts.pass(x, 1);
+        Sentences.is("behind a WEEK", x.last(), -2);
+        x.again(0);
+        Sentences.is("as it was kept", x.last(), 3);
+        Sentences.is("paid", x.cheap(3), 0);
+        x.sheet(2, 10, 2, 0);
+        Sentences.is("PRICES as they are", x.cheap(3), 6);
     }
 
     private static void moreThan3000States() {

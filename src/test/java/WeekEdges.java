@@ -188,6 +188,9 @@ final class WeekEdges {
         Sentences.is("a STRANGER", Feasts.week(x, "b>c"), -100);
         Sentences.is("one brought in that WEEK", Feasts.week(x, "a>b;b>c"), -101);
         Sentences.is("none such", Feasts.week(x, "f>c"), -100);
+        EachBringsAnother first = Feasts.feast("0;0a;0b!");
+        Sentences.is("a STRANGER brings the first", Feasts.week(first, "b>a"), -100);
+        Sentences.is("none such brings the first", Feasts.week(first, "j>a"), -100);
         Feasts.week(x, "a>b");
         Sentences.is("one who is OUT", Feasts.week(x, "d>e"), -100);
         Sentences.is("a GUEST", Feasts.week(x, "b>c"), 0);
@@ -365,6 +368,10 @@ final class WeekEdges {
         }
         Sentences.is("GUESTS", x.count(2), 0b1001);
         Sentences.is("paid", x.count(5), 0);
+        EachBringsAnother first = Feasts.feast("1;2a!");
+        Feasts.week(first, "b>a");
+        first.undo();
+        Sentences.is("who BROUGHT the first", first.of(0, 5), -1);
     }
 
     private static void weeksThen() {
@@ -447,6 +454,9 @@ final class WeekEdges {
         x.hide(2, true);
         Sentences.is("nobody", x.can(), 0);
         Sentences.rowIs(x, 0);
+        EachBringsAnother last = Feasts.feast("0;0;0;0abc!");
+        Sentences.is("the last alone", last.can(), 8);
+        Sentences.rowIs(last, 7);
         EachBringsAnother nobody = Feasts.feast("0;0a");
         Sentences.is("no GUEST", nobody.can(), 0);
         Sentences.rowIs(nobody, 0);

@@ -494,6 +494,9 @@ final class SearchEdges {
         Sentences.rowIs(each, 2);
         Sentences.is("b itself", each.stays(1), 1);
         Sentences.rowIs(each, 3);
+        EachBringsAnother known = Feasts.feast("0!;0!;0b;0ab");
+        Sentences.is("with one that a KNOWS", known.stays(0), 1);
+        Sentences.rowIs(known, 3);
         EachBringsAnother first = Feasts.feast("0;0a!");
         Sentences.is("with the first", first.stays(1), 1);
         Sentences.rowIs(first, 0);

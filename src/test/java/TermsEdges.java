@@ -442,13 +442,13 @@ final class TermsEdges {
         Sentences.is("2 WEEKS", x.picks(0), -2);
         Feasts.rule(x, "w-2");
         Sentences.is("2 WEEKS", x.picks(0), 2);
-        EachBringsAnother sixty = Feasts.feast("0");
-        Feasts.pass(sixty, 60);
-        Feasts.land(sixty, "0a!");
-        Feasts.rule(sixty, "w-60");
-        Sentences.is("60 WEEKS", sixty.picks(1), 0);
-        Feasts.rule(sixty, "w-61");
-        Sentences.is("and no more", sixty.picks(1), -2);
+        EachBringsAnother last = Feasts.feast("0");
+        Feasts.pass(last, 59);
+        Feasts.land(last, "0a!");
+        Feasts.rule(last, "w-59");
+        Sentences.is("59 WEEKS ahead of the last", last.picks(1), 0);
+        Feasts.rule(last, "w-60");
+        Sentences.is("and no more", last.picks(1), -2);
     }
 
     private static void asInts() {

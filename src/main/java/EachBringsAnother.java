@@ -346,7 +346,7 @@ public final class EachBringsAnother {
         if (last <= 0) {
             return NOTHING;
         }
-        search.lookBack(folk, 0, NONE);
+        search.lookBack(folk, moves, 0, NONE);
         tellFirstWeek(last);
         return told.size;
     }
@@ -366,7 +366,7 @@ public final class EachBringsAnother {
             told.clear();
             return least;
         }
-        search.lookBack(folk, 0, least);
+        search.lookBack(folk, moves, 0, least);
         tellFirstWeek(n);
         return least;
     }
@@ -384,7 +384,7 @@ public final class EachBringsAnother {
         int weeks = search.lastWeek(1 << person, 0);
         int whom = NONE;
         if (weeks > 0) {
-            search.lookBack(folk, 1 << person, NONE);
+            search.lookBack(folk, moves, 1 << person, NONE);
             whom = firstToBring(person, weeks);
         }
         told.tell(whom);
@@ -815,7 +815,7 @@ public final class EachBringsAnother {
         }
 
         static int known(int who) {
-            return guests(who) | out(who);
+            return (who | who >> MOST_PEOPLE | who >> 2 * MOST_PEOPLE) & ALL;
         }
 
         static int late(int who, int p) {
@@ -1532,9 +1532,6 @@ public final class EachBringsAnother {
         private final int[] behind = new int[MOST_STATES];
         private final int[] firstOfRank = new int[RANKS];
         private final int[] order = new int[MOST_STATES];
-        private final int[] waysFrom = new int[MOST_STATES + 1];
-        private int[] ways = new int[1024];
-        private int waysSize;
         private int size;
         private int done;
         private boolean fresh;
@@ -1546,33 +1543,31 @@ public final class EachBringsAnother {
 
         /** Whether there are no more STATES than can be searched. */
         boolean run(Folk folk, Moves moves) {
-            if (!fresh) {
-                explore(folk, moves);
-                fresh = true;
+            if (fresh) {
+                return !tooMany;
             }
-            return !tooMany;
-        }
-
-        /** By their ranks, so that all that lead to a STATE are done ahead of it. */
-        private void explore(Folk folk, Moves moves) {
-            Arrays.fill(slots, 0);
-            Arrays.fill(firstOfRank, NONE);
-            waysSize = 0;
-            size = 0;
-            done = 0;
-            tooMany = false;
+            clear();
             place(folk.who, 1);
+            // By their ranks, so that all that lead to a STATE are done ahead of it.
             for (int rank = 0; rank < RANKS; rank++) {
                 while (done < MOST_STATES && firstOfRank[rank] != NONE && !tooMany) {
                     int s = firstOfRank[rank];
                     firstOfRank[rank] = behind[s];
                     order[done] = s;
-                    waysFrom[done] = waysSize;
                     done++;
                     goOn(s, folk, moves);
-                    waysFrom[done] = waysSize;
                 }
             }
+            return !tooMany;
+        }
+
+        private void clear() {
+            Arrays.fill(slots, 0);
+            Arrays.fill(firstOfRank, NONE);
+            size = 0;
+            done = 0;
+            tooMany = false;
+            fresh = true;
         }
 
         private void goOn(int s, Folk folk, Moves moves) {
@@ -1582,19 +1577,8 @@ public final class EachBringsAnother {
             }
             moves.gather(folk, states[s], folk.seats);
             for (int k = 0; k < moves.size && !tooMany; k++) {
-                noteWay(place(Who.after(states[s], moves.moversOf(k), folk.grace), when[s] << 1 & ALL_WEEKS));
+                place(Who.after(states[s], moves.moversOf(k), folk.grace), when[s] << 1 & ALL_WEEKS);
             }
-        }
-
-        private void noteWay(int to) {
-            if (to == NONE) {
-                return;
-            }
-            if (waysSize >= ways.length) {
-                ways = Arrays.copyOf(ways, 2 * waysSize);
-            }
-            ways[waysSize] = to;
-            waysSize++;
         }
 
         private int slotOf(int who) {
@@ -1608,14 +1592,14 @@ public final class EachBringsAnother {
             return slot;
         }
 
-        private int place(int who, long weeks) {
+        private void place(int who, long weeks) {
             int slot = slotOf(who);
             if (slots[slot] == 0) {
-                if (size >= MOST_STATES) {
-                    tooMany = true;
-                    return NONE;
-                }
                 int rank = Who.rank(who);
+                if (size >= MOST_STATES || rank < 0 || rank >= RANKS) {
+                    tooMany = true;
+                    return;
+                }
                 states[size] = who;
                 when[size] = 0;
                 behind[size] = firstOfRank[rank];
@@ -1624,7 +1608,6 @@ public final class EachBringsAnother {
                 slots[slot] = size;
             }
             when[slots[slot] - 1] |= weeks;
-            return slots[slot] - 1;
         }
 
         int guests(int s) {
@@ -1696,22 +1679,37 @@ public final class EachBringsAnother {
             return NONE;
         }
 
-        /** Notes of all STATES in how many WEEKS they lead to one with some GUESTS for which so much is paid. */
-        void lookBack(Folk folk, int some, int paid) {
+        /**
+         * Notes of all STATES in how many WEEKS they lead to one with some GUESTS for which so much is paid. What each
+         * leads to is found again rather than kept, as that would take more room than all else.
+         */
+        void lookBack(Folk folk, Moves moves, int some, int paid) {
             for (int k = done - 1; k >= 0; k--) {
                 int s = order[k];
                 boolean is = guests(s) != 0 && (some & ~guests(s)) == 0;
                 long weeks = is && (paid == NONE || paidFor(s, folk) == paid) ? 1 : 0;
-                for (int w = waysFrom[k]; w < waysFrom[k + 1]; w++) {
-                    weeks |= left[ways[w]] << 1;
-                }
-                left[s] = weeks;
+                left[s] = weeks | leftBehind(s, folk, moves) << 1;
             }
         }
 
-        boolean leads(int who, int n) {
+        private long leftBehind(int s, Folk folk, Moves moves) {
+            long weeks = 0;
+            if (guests(s) != 0) {
+                moves.gather(folk, states[s], folk.seats);
+                for (int k = 0; k < moves.size; k++) {
+                    weeks |= leftOf(Who.after(states[s], moves.moversOf(k), folk.grace));
+                }
+            }
+            return weeks;
+        }
+
+        private long leftOf(int who) {
             int s = slots[slotOf(who)] - 1;
-            return s >= 0 && s < size && (left[s] >> n & 1) != 0;
+            return s >= 0 && s < size ? left[s] : 0;
+        }
+
+        boolean leads(int who, int n) {
+            return (leftOf(who) >> n & 1) != 0;
         }
     }
 }

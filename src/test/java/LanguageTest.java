@@ -29,6 +29,7 @@ public final class LanguageTest {
         classesInside();
         wordsThatMayNotStand();
         methodsStayShort();
+        rowsAreMadeOnce();
         for (String wrong : WRONG) {
             System.out.println(wrong);
         }
@@ -136,6 +137,14 @@ public final class LanguageTest {
             if (line.matches("( {4}| {8})}")) {
                 must(k - from <= 60 || line.equals("    }"), "the method from line " + (from + 1) + " on is too long");
             }
+        }
+    }
+
+    /** With each object its rows are made, and its calls use them again. */
+    private static void rowsAreMadeOnce() throws IOException {
+        for (String line : Files.readAllLines(Path.of(SOURCE))) {
+            boolean makes = Pattern.compile("\\bnew \\w+[\\[(]|\\bcopyOf|\\bclone\\b").matcher(line).find();
+            must(!makes || line.contains("private final ") || line.contains("throw new "), "made by a call: " + line.trim());
         }
     }
 }

@@ -1018,6 +1018,19 @@ public final class PromiseTests {
         rowIs(free);
     }
 
+    /** The last STATE of all (nobody is a GUEST any more) has a place that a STATE with GUESTS had ahead of it. */
+    private static void nothingOfAnEarlierSearch() {
+        EachBringsAnother x = of("0!;0!;0!;0ab;0bc");
+        for (int grace = 3; grace > 1; grace--) {
+            x.law(0, grace);
+            is("all of them", x.stays(1), 3 * grace - 1);
+            is("begin", x.begin(), 0);
+            x.law(0, 1);
+            is("b brings d, then e", x.stays(1), 2);
+            rowIs(x, 3);
+        }
+    }
+
     private static void staying() {
         promise = 28;
         EachBringsAnother x = of(Feasts.FIVE);
@@ -1052,6 +1065,7 @@ public final class PromiseTests {
         three.law(1, 1);
         is("no SEAT", three.stays(1), 0);
         rowIs(three, -1);
+        nothingOfAnEarlierSearch();
         promise = 29;
         is("it is", x.soonest(0), 0);
         is("soonest(1)", x.soonest(1), 1);
